@@ -68,6 +68,13 @@ public final class RuleTest {
         c.ruleFault("take 1 if 1<2 if 1<2", 14, 0);
         c.ruleFault("take 1 if 1<2;if", 14, 0);
         c.ruleFault("take 1 if 1!2", 11, 0);
+        c.ruleFault("takez 1", 0, 0);
+        c.ruleFault("take 1 ifz", 7, 0);
+        c.ruleFault("take 1 ifa", 7, 0);
+        c.ruleFault("take 1 if 1" + Checks.times(" ", 388) + "<", 400, 0);
+        c.ruleFault("take 1 if 1" + Checks.times(" ", 388) + ">", 400, 0);
+        c.ruleFault("take 1" + Checks.times(" ", 392) + "if", 400, 0);
+        c.ruleFault("take 1" + Checks.times(" ", 392) + "+t", 399, 0);
     }
 
     private static void wrongNumbers(Checks c) {

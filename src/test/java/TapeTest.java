@@ -6,6 +6,7 @@ public final class TapeTest {
         feeding(c);
         ending(c);
         byteOrder(c);
+        bytesBehindTheEnd(c);
         c.close();
     }
 
@@ -83,5 +84,20 @@ public final class TapeTest {
         x.end(6);
         c.due("a text in two parts", x.yard(), 0);
         c.due("kinds", x.count(0), 4);
+    }
+
+    /** What was cut off is not read, though it may still lie in the row. */
+    private static void bytesBehindTheEnd(Checks c) {
+        NineTimbers x = new NineTimbers();
+        Checks.put(x, "kinds 12345678901234");
+        x.end(7);
+        c.due("kinds 1", x.yard(), 0);
+        c.due("kinds", x.count(0), 1);
+        Checks.put(x, "take 1 if 1<=1111111");
+        x.end(12);
+        c.due("nothing behind <", x.rule(), Checks.fault(12, 0));
+        Checks.put(x, "take rotrot");
+        x.end(8);
+        c.due("take rot", x.rule(), 0);
     }
 }
