@@ -1,26 +1,72 @@
+import java.lang.reflect.InvocationTargetException;
+import java.lang.reflect.Method;
+import java.lang.reflect.Modifier;
 import java.nio.charset.StandardCharsets;
+import java.util.Arrays;
+import java.util.Comparator;
 
 /** What all tests share: answers compared with those that are due, and texts fed to a tape. */
 final class Checks {
-    private int passed;
-    private int failed;
-
-    /** A yard of the document's kind, used by many tests. */
+    /** A yard of the document's kind, used by many tests: 2 ships, 4 planks, 3 voyages. */
     static final String FLEET =
         "kinds 2;ship 1 2;ship 1 1;plank 0 5 0;plank 1 3 0;plank 1 9 1;plank 1 2 1;"
         + "voyage 0 0 3 100;voyage 1 1 4 50;voyage 1 5 7 30;hands 9";
+
+    /** Numbers that no call takes for a ship, a plank, a voyage, a rule, a law or an image. */
+    static final int[] FAR = {Integer.MIN_VALUE, Integer.MIN_VALUE + 1, -32, -3, 24, 31, 32, 64, 256, Integer.MAX_VALUE};
+
+    private int passed;
+    private int failed;
+    private String test = "";
+
+    /** Runs every method of a class that takes Checks alone: each is the test of a sentence, and bears its name. */
+    static void run(Class<?> tests) {
+        Checks c = new Checks();
+        Method[] methods = tests.getDeclaredMethods();
+        Arrays.sort(methods, Comparator.comparing(Method::getName));
+        for (Method m : methods) {
+            if (Modifier.isStatic(m.getModifiers()) && Arrays.equals(m.getParameterTypes(), new Class<?>[] {Checks.class})) {
+                c.run(tests, m);
+            }
+        }
+        c.close();
+    }
+
+    private void run(Class<?> tests, Method m) {
+        test = tests.getSimpleName() + "." + m.getName() + ": ";
+        int before = passed + failed;
+        try {
+            m.setAccessible(true);
+            m.invoke(null, this);
+        } catch (IllegalAccessException e) {
+            throw new IllegalStateException(e);
+        } catch (InvocationTargetException e) {
+            e.getCause().printStackTrace(System.out);
+            due("ended by " + e.getCause(), false, true);
+        }
+        due("checks something", passed + failed > before, true);
+    }
 
     void due(String call, long got, long want) {
         if (got == want) {
             passed++;
         } else {
             failed++;
-            System.out.println(call + " answered " + got + ", due is " + want);
+            System.out.println(test + call + " answered " + got + ", due is " + want);
         }
     }
 
     void due(String call, boolean got, boolean want) {
         due(call, got ? 1 : 0, want ? 1 : 0);
+    }
+
+    /** All that can be seen of an object must be as it was seen before. */
+    void unchanged(String what, NineTimbers x, int[] before) {
+        int[] now = Seen.of(x);
+        due(what + ": how much can be seen", now.length, before.length);
+        for (int i = 0; i < Math.min(now.length, before.length); i++) {
+            due(what + ": what is seen at " + i, now[i], before[i]);
+        }
     }
 
     /** Prints the counts and ends the program, with 1 if a check failed. */
@@ -35,7 +81,7 @@ final class Checks {
         for (int i = 0; i < bytes.length; i += 20) {
             x.feed(word(bytes, i), word(bytes, i + 4), word(bytes, i + 8), word(bytes, i + 12), word(bytes, i + 16));
         }
-        if (x.end(bytes.length) != bytes.length) {
+        if (x.end(bytes.length) != bytes.length || x.count(11) != bytes.length) {
             throw new IllegalStateException("the tape was not empty, or the text is too long: " + text);
         }
     }
@@ -66,17 +112,49 @@ final class Checks {
         return x;
     }
 
+    /** An object with a yard and with rules, numbered as they stand here. */
+    static NineTimbers withRules(String yard, String... rules) {
+        NineTimbers x = withYard(yard);
+        for (int i = 0; i < rules.length; i++) {
+            if (rule(x, rules[i]) != i) {
+                throw new IllegalStateException("no rule: " + rules[i]);
+            }
+        }
+        return x;
+    }
+
+    /** Moves planks, told as plank, ship, plank, ship ..; each must be moved. */
+    static void move(NineTimbers x, int... planksAndShips) {
+        for (int i = 0; i < planksAndShips.length; i += 2) {
+            if (!x.move(planksAndShips[i], planksAndShips[i + 1])) {
+                throw new IllegalStateException("plank " + planksAndShips[i] + " may not move");
+            }
+        }
+    }
+
     /** What yard and rule answer for a fault. */
     static int fault(int place, int why) {
         return -2 - (1 + 8 * place + why);
     }
 
-    void yardFault(String text, int place, int why) {
-        due("yard of '" + text + "'", yard(new NineTimbers(), text), fault(place, why));
+    /** A yard with a fault at the sign @ (which is not a part of the text). */
+    void yardFault(String marked, int why) {
+        String text = marked.replace("@", "");
+        due("yard of '" + text + "'", yard(new NineTimbers(), text), fault(marked.indexOf('@'), why));
     }
 
-    void ruleFault(String text, int place, int why) {
-        due("rule of '" + text + "'", rule(new NineTimbers(), text), fault(place, why));
+    /** A rule with a fault at the sign @ (which is not a part of the text). */
+    void ruleFault(String marked, int why) {
+        String text = marked.replace("@", "");
+        due("rule of '" + text + "'", rule(new NineTimbers(), text), fault(marked.indexOf('@'), why));
+    }
+
+    void yardTaken(String text, int ships) {
+        due("yard of '" + text + "'", yard(new NineTimbers(), text), ships);
+    }
+
+    void ruleTaken(String text) {
+        due("rule of '" + text + "'", rule(new NineTimbers(), text), 0);
     }
 
     static String times(String part, int n) {
