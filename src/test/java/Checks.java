@@ -123,6 +123,24 @@ final class Checks {
         return x;
     }
 
+    /** All 6 ships (one plank each) and all 24 planks (owners 0 to 5 by turns), and the voyages behind them. */
+    static String manyPlanks(int rot, String voyages) {
+        StringBuilder text = new StringBuilder("kinds 1" + times(";ship 1", 6));
+        for (int plank = 0; plank < 24; plank++) {
+            text.append(";plank 0 ").append(rot).append(' ').append(plank % 6);
+        }
+        return text + voyages;
+    }
+
+    /** All 4 kinds, 6 ships (one plank of kind 3 each), a plank for each, all 8 voyages: a ship each, then 0 and 5 again. */
+    static String manyVoyages() {
+        StringBuilder text = new StringBuilder("kinds 4" + times(";ship 0 0 0 1", 6));
+        for (int ship = 0; ship < 6; ship++) {
+            text.append(";plank 3 9 ").append(ship).append(";voyage ").append(ship).append(" 0 2 ").append(1 + ship);
+        }
+        return text + ";voyage 0 3 4 7;voyage 5 3 4 8";
+    }
+
     /** Moves planks, told as plank, ship, plank, ship ..; each must be moved. */
     static void move(NineTimbers x, int... planksAndShips) {
         for (int i = 0; i < planksAndShips.length; i += 2) {

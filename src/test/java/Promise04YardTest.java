@@ -460,4 +460,42 @@ public final class Promise04YardTest {
         c.yardFault("kinds 1;ship 1" + Checks.times(";plank0 1 0", 24) + ";@planks", SIGN);
         c.yardFault("kinds 1;ship 1 @99", SIGN);
     }
+
+    private static void nothingIsLeftOfYardsBefore(Checks c) {
+        String small = "kinds 1;ship 0;plank 0 9 0;voyage 0 0 1 5";
+        int[] first = Seen.of(Checks.withYard(small));
+        NineTimbers x = Checks.withYard(small);
+        for (int i = 0; i < 3; i++) {
+            Checks.move(x, 0, 0, 0, -1);
+            x.days(-1, 7);
+            c.due("again", Checks.yard(x, small), 1);
+            c.unchanged("yard " + i, x, first);
+        }
+    }
+
+    private static void nothingIsLeftOfGreaterYardsBefore(Checks c) {
+        String small = "kinds 1;ship 0;plank 0 9 0;voyage 0 0 1 5";
+        int[] first = Seen.of(Checks.withYard(small));
+        NineTimbers x = Checks.withYard(Checks.FLEET);
+        c.due("first", Checks.yard(x, small), 1);
+        c.due("second", Checks.yard(x, small), 1);
+        c.unchanged("behind a greater one", x, first);
+        c.due("a fault", Checks.yard(x, "kinds 4;ship 1 1 1 1;ship 1 1 1 1;plank 0 5 0;voyage 0 0 1 5;hands 3;x"),
+            Checks.fault(69, SIGN));
+        c.due("third", Checks.yard(x, small), 1);
+        c.unchanged("behind a fault", x, first);
+    }
+
+    private static void nothingIsLeftOfDaysAhead(Checks c) {
+        String text = "kinds 1;ship 1;ship 1;plank 0 1 0;plank 0 9 0;voyage 0 0 4 5;voyage 1 0 1 5";
+        NineTimbers x = Checks.withRules(text, "take rot");
+        int[] first = Seen.of(x);
+        c.due("one is lost", x.ahead(0, 50, 1), 1);
+        c.due("one is paid", x.ahead(0, 50, 0), 5);
+        Checks.yard(x, text);
+        c.unchanged("behind days ahead", x, first);
+        x.years(0, 3, 1, 50, 0);
+        Checks.yard(x, text);
+        c.unchanged("behind years", x, first);
+    }
 }

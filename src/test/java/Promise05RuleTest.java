@@ -637,4 +637,30 @@ public final class Promise05RuleTest {
         c.due("one holds", taken("take 0 if rot>99;take 5 if plank=5"), 5);
         c.due("a greater sum, but the only one", taken("take 99999*99999 if plank=4"), 4);
     }
+
+    private static void twoSumsWithoutASignAreNoFact(Checks c) {
+        c.ruleFault("take 1 if 1 @2", SIGN);
+        c.ruleFault("take 1 if 1 @2<3", SIGN);
+        c.ruleFault("take 1 if rot @rot=1", SIGN);
+        c.ruleFault("take 1 if 1@rot=1", SIGN);
+        c.ruleFault("take 1 if [1 @2]", SIGN);
+        c.ruleFault("take 1 if not 1 @2", SIGN);
+    }
+
+    private static void factsOfAllSignsAreJoined(Checks c) {
+        String[] yes = {"4<5", "4<=5", "5<=5", "5=5", "5>=5", "5>=4", "5>4"};
+        String[] no = {"5<5", "6<5", "6<=5", "6=5", "4>=5", "5>5", "4>5"};
+        for (int i = 0; i < yes.length; i++) {
+            c.due("not " + yes[i], holds("not " + yes[i]), false);
+            c.due("not " + no[i], holds("not " + no[i]), true);
+            c.due("not not " + yes[i], holds("not not " + yes[i]), true);
+            for (int k = 0; k < yes.length; k++) {
+                c.due("both", holds(yes[i] + " and " + yes[k]), true);
+                c.due("one of both", holds(yes[i] + " and " + no[k]), false);
+                c.due("either", holds(no[i] + " or " + yes[k]), true);
+                c.due("neither", holds(no[i] + " or " + no[k]), false);
+                c.due("both, not", holds("not " + no[i] + " and " + yes[k]), true);
+            }
+        }
+    }
 }

@@ -163,4 +163,26 @@ public final class Promise06ShipTest {
         }
         c.unchanged("ship", x, before);
     }
+
+    private static void aFullYard(Checks c) {
+        NineTimbers x = Checks.withRules(Checks.manyVoyages(), "take plank");
+        for (int ship = 0; ship < 6; ship++) {
+            c.due("not whole", x.ship(ship, 2), 0);
+            c.due("must", x.ship(ship, 8), 1);
+        }
+        x.days(0, 1);
+        for (int ship = 0; ship < 6; ship++) {
+            c.due("at sea", x.ship(ship, 0), 1);
+            c.due("whole", x.ship(ship, 2), 1);
+            c.due("on", x.ship(ship, 4), ship);
+        }
+        x.days(0, 3);
+        int[] due = {6, -1, -1, -1, -1, 7};
+        for (int ship = 0; ship < 6; ship++) {
+            c.due("on", x.ship(ship, 4), due[ship]);
+        }
+        NineTimbers y = Checks.withYard("kinds 4" + Checks.times(";ship 5 5 5 5", 5) + ";ship 0 0 0 0");
+        c.due("the last must have none", y.ship(5, 2), 1);
+        c.due("the one ahead", y.ship(4, 2), 0);
+    }
 }

@@ -536,4 +536,32 @@ public final class Promise10DaysTest {
         c.due("days", x.days(0, 2), 8);
         c.due("30, all planks rotted", x.ship(1, 3), 63);
     }
+
+    private static void aFullYardOfVoyages(Checks c) {
+        NineTimbers x = Checks.withRules(Checks.manyVoyages(), "take plank");
+        x.days(0, 1);
+        for (int ship = 0; ship < 6; ship++) {
+            c.due("plank " + ship, x.plank(ship, 3), ship);
+        }
+        c.due("days", x.days(0, 5), 6);
+        c.due("earned", x.count(7), 36);
+        c.due("moves", x.count(9), 6);
+        c.due("rot of ship 0's", x.plank(0, 1), 6);
+        c.due("rot of ship 1's", x.plank(1, 1), 7);
+        c.due("rot of ship 5's", x.plank(5, 1), 6);
+        c.due("owed to 5: 6 in 2 and 8 in 2", x.ship(5, 3), 14);
+    }
+
+    private static void aFullYardOfPlanks(Checks c) {
+        NineTimbers x = Checks.withRules(Checks.manyPlanks(2, ";voyage 5 0 4 9;voyage 4 0 2 8"), "take 0-plank");
+        x.days(0, 1);
+        c.due("the last plank", x.plank(23, 3), 5);
+        c.due("the one ahead", x.plank(22, 3), 4);
+        c.due("no other", x.count(8), 22);
+        x.days(0, 2);
+        c.due("lost", x.ship(5, 0), 2);
+        c.due("lost", x.plank(23, 4), 1);
+        c.due("home", x.voyage(1, 4), 2);
+        c.due("earned", x.count(7), 8);
+    }
 }

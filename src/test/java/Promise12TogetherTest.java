@@ -108,4 +108,15 @@ public final class Promise12TogetherTest {
         }
         c.unchanged("together", x, before);
     }
+
+    private static void aFullYard(Checks c) {
+        NineTimbers x = Checks.withYard(Checks.manyVoyages());
+        for (int set = 0; set < 256; set++) {
+            c.due("set " + set, x.together(set), 1);
+        }
+        c.due("no set", x.together(256), -1);
+        NineTimbers y = Checks.withYard(Checks.manyVoyages().replace("plank 3 9 5", "plank 2 9 5"));
+        c.due("all of day 0", y.together(63), 0);
+        c.due("all but one", y.together(255 - 4), 1);
+    }
 }

@@ -111,4 +111,10 @@ public final class Promise13CutTest {
         }
         c.unchanged("cut", x, before);
     }
+
+    private static void aFullYard(Checks c) {
+        cut(c, Checks.withYard(Checks.manyVoyages()), 255, -2, -2);
+        cut(c, Checks.withYard(Checks.manyVoyages().replace("plank 3 9 5", "plank 2 9 5")), 255, 0, 3);
+        cut(c, Checks.withYard(Checks.manyVoyages().replace("voyage 5 3", "voyage 0 3")), 255, 3, 4);
+    }
 }

@@ -76,4 +76,14 @@ public final class Promise14MostTest {
         }
         c.unchanged("most", x, before);
     }
+
+    private static void pay1IsMoreThanNone(Checks c) {
+        most(c, "kinds 1;ship 0;voyage 0 0 2 1", 1, 1);
+        most(c, "kinds 1;ship 1;ship 0;voyage 0 0 2 9;voyage 1 0 2 1", 1, 2);
+    }
+
+    private static void aFullYard(Checks c) {
+        most(c, Checks.manyVoyages(), 36, 255);
+        most(c, Checks.manyVoyages().replace("plank 3 9 5", "plank 2 9 5"), 35, 254);
+    }
 }

@@ -118,4 +118,14 @@ public final class Promise15WillDoTest {
         }
         c.unchanged("willDo", x, before);
     }
+
+    private static void aFullYard(Checks c) {
+        NineTimbers x = Checks.withYard(Checks.manyVoyages().replace("plank 3 9 4", "plank 3 8 4"));
+        for (int voyage = 0; voyage < 8; voyage++) {
+            c.due("voyage " + voyage, x.willDo(voyage), bits(4));
+        }
+        NineTimbers y = Checks.withYard(Checks.manyPlanks(9, ";voyage 5 0 9 9;voyage 5 0 10 9"));
+        c.due("of 24 the first", y.willDo(0), bits(0));
+        c.due("of 24 none", y.willDo(1), -2);
+    }
 }

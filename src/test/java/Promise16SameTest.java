@@ -138,4 +138,15 @@ public final class Promise16SameTest {
         }
         c.unchanged("same", x, before);
     }
+
+    private static void aFullYard(Checks c) {
+        NineTimbers x = Checks.withYard(Checks.manyPlanks(9, ""));
+        Checks.move(x, 23, 0, 17, 0, 10, 5, 18, 5);
+        c.due("law 0: plank 17", x.same(0, 0), 5);
+        c.due("law 1", x.same(1, 0), 5);
+        c.due("law 0: plank 10", x.same(0, 5), 4);
+        c.due("law 1: the least", x.same(1, 5), 0);
+        c.due("law 0 of an empty hull", x.same(0, 4), -1);
+        c.due("law 1 of an empty hull", x.same(1, 4), -1);
+    }
 }

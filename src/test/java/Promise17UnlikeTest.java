@@ -76,4 +76,14 @@ public final class Promise17UnlikeTest {
         x.unlike();
         c.unchanged("unlike", x, before);
     }
+
+    private static void aFullYard(Checks c) {
+        NineTimbers x = Checks.withYard(Checks.manyPlanks(9, ""));
+        for (int plank = 0; plank < 24; plank++) {
+            Checks.move(x, plank, plank % 6);
+        }
+        c.due("each has her own", x.unlike(), 0);
+        Checks.move(x, 0, -1, 6, -1, 12, -1, 18, -1, 23, 0);
+        c.due("ship 0 has one of 5", x.unlike(), 1);
+    }
 }

@@ -135,4 +135,19 @@ public final class Promise19DealtTest {
         }
         c.unchanged("dealt", x, before);
     }
+
+    private static void pay1IsMoreThanNone(Checks c) {
+        dealt(c, Checks.withYard("kinds 1;ship 0;voyage 0 0 2 1"), 1, 1);
+        dealt(c, Checks.withYard("kinds 1;ship 1;ship 0;voyage 0 0 2 9;voyage 1 0 2 1"), 1, 2);
+    }
+
+    private static void aPlankWithARotOf1IsSound(Checks c) {
+        dealt(c, Checks.withYard("kinds 1;ship 1;plank 0 1 0;voyage 0 0 9 5"), 5, 1);
+    }
+
+    private static void aFullYard(Checks c) {
+        dealt(c, Checks.withYard(Checks.manyVoyages()), 36, 63);
+        dealt(c, Checks.withYard(Checks.manyVoyages().replace("plank 3 9 5", "plank 2 9 5")), 34, 61);
+        dealt(c, Checks.withYard(Checks.manyPlanks(1, ";voyage 5 0 9 5;voyage 3 0 9 5")), 10, 40);
+    }
 }

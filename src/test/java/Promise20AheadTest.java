@@ -144,4 +144,15 @@ public final class Promise20AheadTest {
         c.due("back", x.back(0), 1);
         c.unchanged("the image", x, before);
     }
+
+    private static void aFullYard(Checks c) {
+        NineTimbers x = Checks.withRules(Checks.manyVoyages(), "take plank");
+        c.due("earned", x.ahead(0, 100, 0), 36);
+        c.due("lost", x.ahead(0, 100, 1), 0);
+        c.due("moves", x.ahead(0, 100, 2), 6);
+        NineTimbers y = Checks.withRules(Checks.manyPlanks(1, ";voyage 5 0 9 5;voyage 3 0 9 5;voyage 0 0 1 7"), "take 0-plank");
+        c.due("earned", y.ahead(0, 100, 0), 7);
+        c.due("lost", y.ahead(0, 100, 1), 40);
+        c.due("moves", y.ahead(0, 100, 2), 3);
+    }
 }

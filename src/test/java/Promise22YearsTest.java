@@ -225,4 +225,14 @@ public final class Promise22YearsTest {
         x.back(0);
         c.unchanged("nor has the image changed", x, before);
     }
+
+    private static void aFullYard(Checks c) {
+        NineTimbers x = Checks.withRules(Checks.manyVoyages(), "take plank");
+        c.due("earned", x.years(0, 20, 100, 0, 0), 720);
+        c.due("lost", x.years(0, 20, 100, 100, 1), 0);
+        NineTimbers y = Checks.withRules(Checks.manyPlanks(5, ";voyage 5 0 4 5;voyage 3 0 4 5;voyage 0 0 1 7"), "take 0-plank");
+        c.due("lost", y.years(0, 20, 100, 100, 1), 40);
+        c.due("earned", y.years(0, 20, 100, 100, 0), 140);
+        c.due("never", y.years(0, 20, 100, 0, 0), 340);
+    }
 }
