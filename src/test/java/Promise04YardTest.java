@@ -498,4 +498,15 @@ public final class Promise04YardTest {
         Checks.yard(x, text);
         c.unchanged("behind years", x, first);
     }
+
+    private static void handsOfAYardBeforeAreNotUsed(Checks c) {
+        String small = "kinds 1;ship 0;plank 0 9 0;hands 1";
+        NineTimbers x = Checks.withYard(small);
+        for (int i = 0; i < 4; i++) {
+            c.due("a hand", x.count(6), 1);
+            c.due("move", x.move(0, 0), true);
+            c.due("no hand", x.count(6), 0);
+            c.due("again", Checks.yard(x, small), 1);
+        }
+    }
 }

@@ -564,4 +564,17 @@ public final class Promise10DaysTest {
         c.due("home", x.voyage(1, 4), 2);
         c.due("earned", x.count(7), 8);
     }
+
+    private static void fromAShipAshoreInAFullYard(Checks c) {
+        NineTimbers x = Checks.withRules("kinds 1;ship 1;ship 1;plank 0 9 0;voyage 0 0 1 1" + Checks.times(";voyage 1 5 6 1", 7),
+            "take plank");
+        Checks.move(x, 0, 1);
+        x.days(0, 1);
+        c.due("taken", x.plank(0, 3), 0);
+        NineTimbers y = Checks.withRules("kinds 1;ship 1;ship 2;plank 0 9 0;voyage 0 0 1 1" + Checks.times(";voyage 1 5 6 1", 6)
+            + ";voyage 1 0 2 1", "take plank");
+        Checks.move(y, 0, 1);
+        y.days(0, 1);
+        c.due("the last voyage of hers begins on this day", y.plank(0, 3), 1);
+    }
 }

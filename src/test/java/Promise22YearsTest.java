@@ -235,4 +235,10 @@ public final class Promise22YearsTest {
         c.due("earned", y.years(0, 20, 100, 100, 0), 140);
         c.due("never", y.years(0, 20, 100, 0, 0), 340);
     }
+
+    private static void noSoundPlankAmongTwentyFour(Checks c) {
+        NineTimbers x = Checks.withRules(Checks.manyPlanks(1, ";voyage 5 0 1 5"), "take 0-plank");
+        c.due("earned", x.years(0, 20, 100, 100, 0), 100);
+        c.due("lost", x.years(0, 20, 100, 100, 1), 0);
+    }
 }
