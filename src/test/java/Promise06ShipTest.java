@@ -185,4 +185,15 @@ public final class Promise06ShipTest {
         c.due("the last must have none", y.ship(5, 2), 1);
         c.due("the one ahead", y.ship(4, 2), 0);
     }
+
+    /** Sound is ROT above 0, lost or not. */
+    private static void soundPlanksInALostShip(Checks c) {
+        NineTimbers x = Checks.withYard("kinds 1;ship 1;plank 0 1 0;plank 0 9 0;voyage 0 0 9 5");
+        Checks.move(x, 0, 0, 1, 0);
+        x.days(-1, 1);
+        c.due("lost", x.ship(0, 0), 2);
+        c.due("one has rot left", x.ship(0, 1), 1);
+        c.due("whole with it", x.ship(0, 2), 1);
+        c.due("lacks none", x.lacks(0, 0), 0);
+    }
 }

@@ -95,4 +95,15 @@ public final class Promise18WreckTest {
         }
         c.unchanged("wreck", x, before);
     }
+
+    /** Sound is ROT above 0, lost or not. */
+    private static void aLostShip(Checks c) {
+        NineTimbers x = Checks.withYard("kinds 1;ship 1;ship 1;plank 0 1 0;plank 0 9 1;voyage 0 0 9 5");
+        Checks.move(x, 0, 0, 1, 0);
+        x.days(-1, 1);
+        c.due("lost", x.ship(0, 0), 2);
+        c.due("the rotten one", x.wreck(0, 0), 0);
+        c.due("the sound one", x.wreck(0, 1), 1);
+        c.due("who", x.wreck(0, -1), 1);
+    }
 }
