@@ -434,7 +434,7 @@ public final class NineTimbers {
     }
 
     private boolean hasVoyages(int voyages) {
-        return now.told && voyages >= 0 && voyages < 1 << now.yard.voyages;
+        return voyages >= 0 && voyages < 1 << now.yard.voyages;
     }
 
     /** The bytes that texts are told by. */

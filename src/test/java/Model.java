@@ -651,7 +651,7 @@ final class Model {
     }
 
     private boolean isSet(int set) {
-        return now.told && in(set, 0, (1 << now.voyages.size()) - 1);
+        return in(set, 0, (1 << now.voyages.size()) - 1);
     }
 
     int together(int set) {

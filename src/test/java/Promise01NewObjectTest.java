@@ -44,9 +44,9 @@ public final class Promise01NewObjectTest {
             c.due("move(0," + i + ")", x.move(0, i), false);
             c.due("days(" + i + ",1)", x.days(i, 1), -1);
             c.due("lacks(" + i + ",0)", x.lacks(i, 0), -1);
-            c.due("together(" + i + ")", x.together(i), -1);
-            c.due("cut(" + i + ",0)", x.cut(i, 0), -1);
-            c.due("cut(" + i + ",1)", x.cut(i, 1), -1);
+            c.due("together(" + i + ")", x.together(i), i == 0 ? 1 : -1);
+            c.due("cut(" + i + ",0)", x.cut(i, 0), i == 0 ? -2 : -1);
+            c.due("cut(" + i + ",1)", x.cut(i, 1), i == 0 ? -2 : -1);
             c.due("most(" + i + ")", x.most(i), -1);
             c.due("willDo(" + i + ")", x.willDo(i), -1);
             c.due("same(2," + i + ")", x.same(2, i), -2);

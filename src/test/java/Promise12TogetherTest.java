@@ -50,6 +50,17 @@ public final class Promise12TogetherTest {
         c.due("without voyages", Checks.withYard("kinds 1").together(0), 1);
     }
 
+    /** NONE is for VOYAGES that there are not; the empty set has none of these, and no YARD is asked for here. */
+    private static void theEmptySetCanBeWithoutAYard(Checks c) {
+        NineTimbers x = new NineTimbers();
+        c.due("a new object", x.together(0), 1);
+        c.due("a set with a voyage", x.together(1), -1);
+        c.due("below 0", x.together(-1), -1);
+        Checks.yard(x, "kinds 1;ship 0;voyage 0 0 1 1;x");
+        c.due("behind a yard with a fault", x.together(0), 1);
+        c.due("its voyage is not there", x.together(1), -1);
+    }
+
     private static void rottenPlanksCountLostOnesDoNot(Checks c) {
         NineTimbers x = Checks.withYard("kinds 1;ship 1;ship 1;plank 0 1 0;plank 0 1 0;voyage 0 0 3 7;voyage 1 0 1 5;voyage 1 5 6 5");
         Checks.move(x, 0, 0, 1, 1);

@@ -74,6 +74,19 @@ public final class Promise13CutTest {
         cut(c, Checks.withYard("kinds 1"), 0, -2, -2);
     }
 
+    /** NONE is for VOYAGES and whats that there are not; the empty set has none of these, and no YARD is asked for here. */
+    private static void theEmptySetCanBeWithoutAYard(Checks c) {
+        NineTimbers x = new NineTimbers();
+        cut(c, x, 0, -2, -2);
+        cut(c, x, 1, -1, -1);
+        cut(c, x, -1, -1, -1);
+        c.due("what -1", x.cut(0, -1), -1);
+        c.due("what 2", x.cut(0, 2), -1);
+        Checks.yard(x, "kinds 1;ship 0;voyage 0 0 1 1;x");
+        cut(c, x, 0, -2, -2);
+        cut(c, x, 1, -1, -1);
+    }
+
     private static void afterALoss(Checks c) {
         NineTimbers x = Checks.withYard("kinds 1;ship 1;ship 1;plank 0 1 0;plank 0 9 0;voyage 0 0 3 7;voyage 1 1 2 5");
         cut(c, x, 3, -2, -2);

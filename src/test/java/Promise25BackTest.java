@@ -101,7 +101,8 @@ public final class Promise25BackTest {
         c.due("unlike", x.unlike(), -1);
         c.due("most", x.most(0), -1);
         c.due("days", x.days(-1, 1), -1);
-        c.due("together", x.together(0), -1);
+        c.due("together", x.together(0), 1);
+        c.due("a voyage of the yard", x.together(1), -1);
         c.due("a yard again", Checks.yard(x, Checks.FLEET), 2);
     }
 
